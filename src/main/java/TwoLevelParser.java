@@ -194,7 +194,7 @@ public final class TwoLevelParser {
             if (first == NONE) {
                 token = END;
             } else if (isJoined(first)) {
-                takeJoined(first);
+                scanJoined(first);
             } else {
                 token = first == '(' ? OPEN : first == ')' ? CLOSE : BAD;
                 next = place + 1;
@@ -202,18 +202,18 @@ public final class TwoLevelParser {
         }
 
         /** What is joined is one TOKEN or none, so all of it is passed before it is judged. */
-        private void takeJoined(int first) {
+        private void scanJoined(int first) {
             while (next < length && isJoined(byteAt(next))) {
                 next++;
             }
             if (isLetter(first)) {
-                token = takesName() ? NAME : BAD;
+                token = scansName() ? NAME : BAD;
             } else {
-                token = takesNumber(first == '-') ? NUMBER : BAD;
+                token = scansNumber(first == '-') ? NUMBER : BAD;
             }
         }
 
-        private boolean takesName() {
+        private boolean scansName() {
             if (next - place > MOST_LETTERS) {
                 return false;
             }
@@ -229,7 +229,7 @@ public final class TwoLevelParser {
             return true;
         }
 
-        private boolean takesNumber(boolean negative) {
+        private boolean scansNumber(boolean negative) {
             int from = negative ? place + 1 : place;
             long most = negative ? 2147483648L : 2147483647L;
             long amount = 0L;
@@ -306,9 +306,13 @@ public final class TwoLevelParser {
                 numbers = Arrays.copyOf(numbers, 2 * numbers.length);
                 names = Arrays.copyOf(names, 2 * names.length);
             }
-            Arrays.fill(numbers, row * width, (row + 1) * width, NONE);
-            Arrays.fill(names, row * namesWidth, (row + 1) * namesWidth, 0L);
             rows++;
+            for (int column = 0; column < width; column++) {
+                setNumber(row, column, NONE);
+            }
+            for (int column = 0; column < namesWidth; column++) {
+                setName(row, column, 0L);
+            }
             return row;
         }
 

@@ -41,9 +41,10 @@ public final class FaultsTest {
                 c.fault(1, "(fun f^" + (char) b + "g () int 1)");
             }
         }
+        // The mark itself can not be given by fault().
         TwoLevelParser x = Checks.given("(fun f ^");
-        c.due("read() of (fun f ^", x.read(), 1);
-        c.due("look(2) of (fun f ^", x.look(2), 8 - 1);
+        c.due("read() of a ^", x.read(), 1);
+        c.due("look(2) of a ^", x.look(2), 7);
     }
 
     private static void definitions() {

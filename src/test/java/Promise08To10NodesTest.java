@@ -74,6 +74,9 @@ public final class Promise08To10NodesTest {
             0, 0, 0, 0, 1, 1, 2, 2, 2, 2, 4, 4, 4);
         variablesOf("(fun f ((a int)) int (let x 1 (imod (read x y (if y (write x) (jump f x))))))",
             1, 1, 2, 2, 2, 3, 3, 3, 3, 3, 3);
+        variablesOf("(fun f ((a int)) int (if 1 2 3))", 1, 1, 1, 1);
+        variablesOf("(chg f ((a int)) int (if 1 (write 2) (write 3)))", 1, 1, 1, 1, 1, 1);
+        variablesOf("(fun f ((a int)(b int)) int (memo g (cons 1 (sub 2 3)) (lmod (write 4))))", 2, 2, 2, 2, 2, 2, 2, 2, 2);
         variablesOf("(fun f ((a int)) int 1)(fun g () int 1)(chg h ((a int)(b int)) int (write 1))", 1, 0, 2, 2);
     }
 
