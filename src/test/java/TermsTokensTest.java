@@ -3,6 +3,7 @@ public final class TermsTokensTest {
     private static final Checks c = new Checks("tokens");
 
     public static void main(String[] args) {
+        brackets();
         lengthsOfNames();
         lettersOfNames();
         namesAsLongs();
@@ -15,6 +16,25 @@ public final class TermsTokensTest {
         joined();
         otherBytes();
         c.end();
+    }
+
+    /** Each ( and each ) is a TOKEN of its own, with its own place, also without blanks round it. */
+    private static void brackets() {
+        c.sentence("promises 4, 8, 11", "A TOKEN is ( or )");
+        c.due("look(4)", c.readWell("(fun f()int(add(add 1 2)(add(add 3 4)5)))").look(4), 9);
+        c.fault(2, "(^(");
+        c.fault(2, "^)(");
+        c.fault(2, "(^)");
+        c.fault(2, "(fun f((^()int 1)");
+        c.fault(2, "(fun f((^))int 1)");
+        c.fault(2, "(fun f()int 1)^)");
+        c.fault(2, "(fun f()int(add(add 1 2)3)^(");
+        c.fault(3, "(fun f()int(add(add 1 2)3)^");
+        for (char none : new char[] {'(' - 1, ')' + 1, '[', ']', '{', '}', '<', '>', '(' + 128, ')' + 128}) {
+            c.fault(1, "^" + none + "fun f()int 1)");
+            c.fault(1, "(fun f()int 1^" + none);
+            c.fault(1, "(fun f()int(add(add 1 2)^" + none);
+        }
     }
 
     private static void lengthsOfNames() {
